@@ -546,7 +546,7 @@ public final class AsleepCots {
             room.clear();
             int slot = 0;
             int width = 0;
-            for (int place = 0; place < length; place += width) {
+            for (int place = 0; place < length; place += Math.max(1, width)) {
                 width = widthAt(place);
                 faultRead = faultAt(place, width, slot, room.children);
                 if (faultRead != 0) {
@@ -731,7 +731,7 @@ public final class AsleepCots {
         }
 
         int bearsOf(int c) {
-            return isOne(kinds[c], DEEP) ? 2 * holds[c] : holds[c];
+            return kinds[c] == DEEP || kinds[c] == STILL ? 2 * holds[c] : holds[c];
         }
 
         int whereLoudest() {
@@ -794,20 +794,27 @@ public final class AsleepCots {
 
         void passMinutes(int n) {
             for (int m = 0; m < n; m++) {
-                passMinute();
+                if (!passMinute()) {
+                    minute += n - 1 - m;
+                    return;
+                }
             }
         }
 
-        void passMinute() {
+        /** Whether a child changed: if none did, none does in any minute behind, as all goes by the children alone. */
+        boolean passMinute() {
             int criers = heardCriers();
+            boolean changed = false;
             for (int c = 0; c < children; c++) {
                 if (states[c] == CRIES) {
                     calmDown(c);
-                } else if (!has(away, c)) {
-                    listen(c, noiseAt(c, criers) > bearsOf(c));
+                    changed = true;
+                } else if (!has(away, c) && listen(c, noiseAt(c, criers) > bearsOf(c))) {
+                    changed = true;
                 }
             }
             minute++;
+            return changed;
         }
 
         private void calmDown(int c) {
@@ -817,17 +824,19 @@ public final class AsleepCots {
             }
         }
 
-        private void listen(int c, boolean tooLoud) {
+        private boolean listen(int c, boolean tooLoud) {
             if (states[c] == SLEEPS) {
                 if (tooLoud) {
                     wake(c);
                 }
-                return;
+                return tooLoud;
             }
-            calms[c] = tooLoud ? 0 : calms[c] + calmGained(c);
+            int before = calms[c];
+            calms[c] = tooLoud ? 0 : before + calmGained(c);
             if (calms[c] >= needs[c]) {
                 states[c] = SLEEPS;
             }
+            return states[c] == SLEEPS || calms[c] != before;
         }
 
         private int calmGained(int c) {
@@ -902,7 +911,9 @@ public final class AsleepCots {
                 if (trial.sleepAll(set)) {
                     return m;
                 }
-                trial.passMinute();
+                if (!trial.passMinute()) {
+                    return NONE;
+                }
             }
             return trial.sleepAll(set) ? FORESIGHT : NONE;
         }

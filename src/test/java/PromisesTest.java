@@ -117,6 +117,7 @@ public final class PromisesTest {
         is("items 0 at first", x.held(7, 0, 4), 129);
         is("set", x.set(7, 3, 5), 5);
         is("an item is set", x.held(7, 0, 4), 0);
+        x.set(7, 0, 5);
         is("SIZE", x.row(7, 0, -1), SIZE);
         is("SIZE, far", x.row(7, 0, LOW), SIZE);
         is("found, it stays", x.held(7, 0, 4), 0);
@@ -624,11 +625,11 @@ public final class PromisesTest {
         is("never", Due.roomOf("k0,1;s1,0,0;").allAsleep(), NONE);
         is("nothing changes", x.count(2), 3);
 
-        edgeOfSixty();
+        lateSleepers();
     }
 
-    /** Two wake one another in turn so that none sleeps; then the last to sleep does so at a late minute. */
-    private static void edgeOfSixty() {
+    /** The longest that one can stay awake without the song: nine minutes of crying, nine of lying. */
+    private static void lateSleepers() {
         AsleepCots x = Due.roomOf("k0,9;p9,0,0;p9,0,9;");
         x.minutes(9);
         x.lorry(1);
@@ -653,11 +654,11 @@ public final class PromisesTest {
         x.carry(0, 1);
         x.carry(1, 1);
         is("of those who are in", x.dinner(3), 3);
-        // Child 0 sleeps at 1; brought back, a crier wakes him again: the first stretch is the longer one.
         x = Due.roomOf("k0,9;p1,0,9;p1,1,9;");
         x.minutes(1);
         x.lorry(1);
-        is("one cries, wakes the other at 1, both sleep by 12", x.stand(1) * 100 + x.allAsleep(), 111);
+        is("one cries, wakes the other, who is behind by one", x.stand(1) * 100 + x.allAsleep(), 111);
+        is("behind 11 and 12", x.dinner(12), 2);
     }
 
     private static void plannedHands() {
@@ -687,6 +688,8 @@ public final class PromisesTest {
         x.minutes(1);
         x.carry(0, 1);
         is("who is OUT and SLEEPS is one who SLEEPS", x.hands(1, 0) * 10 + x.hands(1, 1), 22);
+        x = Due.roomOf("k3,1;s2,0,0;s2,0,0;s2,0,0;");
+        is("a hand for each", x.hands(1, 0) * 10 + x.hands(1, 1), 37);
     }
 
     private static void plannedOuts() {
@@ -736,6 +739,8 @@ public final class PromisesTest {
         x.minutes(1);
         x.lorry(1);
         is("1 and 2", x.best(1, 0) * 10 + x.best(1, 1), 122);
+        x = Due.roomOf("k0,1;s1,0,0;s1,0,0;");
+        is("two: the one pair there is", x.best(1, 0) * 10 + x.best(1, 1), 10);
     }
 
     private static void silence() {
@@ -890,6 +895,8 @@ public final class PromisesTest {
         fraction(x, 3, 1, 10, 0, 1);
         fraction(x, 3, 2, 5, 1, 4);
         fraction(x, 2, 8, 7, 1, 1);
+        fraction(x, 0, 1, 10, 1, 1);
+        fraction(x, 3, 1, 1, 9, 10);
         fraction(x, 99, 4, 9, 1, 10000);
         is("BAD noise", x.lorries(100, 1, 1, 0), BAD);
         is("BAD noise below", x.lorries(-1, 1, 1, 0), BAD);
@@ -927,6 +934,20 @@ public final class PromisesTest {
         x = Due.roomOf("k0,3;p1,1,0;p1,2,0;");
         x.minutes(1);
         is("the lorry is first, then he is OUT", x.drawn(1, 6, 0) * 10 + x.drawn(1, 6, 1), 11);
+        // From 1, of three: 16807 carries child 1 OUT, 282475249 child 1, too; the others sleep, then.
+        x = Due.roomOf("k0,1;p2,0,0;p1,0,0;p2,0,0;");
+        is("two of three", x.drawn(2, 1, 0), 2);
+        x = Due.roomOf("k0,1;p1,0,0;");
+        is("the only one is OUT", x.drawn(1, 1, 0), 0);
+        x = Due.roomOf("k0,1;p1,0,0;p1,0,0;");
+        x.carry(0, 1);
+        is("who is OUT already stays so", x.drawn(2, 1, 0), 0);
+        // From 6, two minutes: 100842 carries child 0 OUT; 1694851494 has six: 14, and seven: child 0.
+        x = Due.roomOf("k0,1;p1,9,0;p1,9,0;");
+        x.minutes(1);
+        is("who is OUT is not woken by 14, the other is, and cries for no minute behind", x.drawn(2, 6, 0), 1);
+        x = Due.roomOf("k0,3;p1,1,0;p1,2,0;");
+        x.minutes(1);
         is("BAD n", x.drawn(61, 1, 0), BAD);
         is("BAD n below", x.drawn(-1, 1, 0), BAD);
         is("BAD seed 0", x.drawn(1, 0, 0), BAD);
