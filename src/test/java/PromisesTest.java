@@ -639,6 +639,16 @@ public final class PromisesTest {
         is("0 by himself", x.asleep(0), 18);
         promise = 21;
         is("0 by himself", x.allAsleep(), 18);
+        // With the song's CALM of 2, less is wanted: he sleeps by a minute in which CALM stays as it is.
+        x = Due.roomOf("k1,2;s3,0,0;");
+        x.hand(0, 1);
+        x.minutes(1);
+        x.hand(0, 0);
+        is("never, by 3", x.allAsleep(), NONE);
+        x.need(0, 2);
+        is("by 2", x.allAsleep(), 1);
+        promise = 20;
+        is("by 2", x.asleep(0), 1);
     }
 
     private static void dinner() {
