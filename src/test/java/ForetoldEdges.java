@@ -83,6 +83,7 @@ final class ForetoldEdges {
         e.is("first, though he wakes again", x.asleep(0), 3);
         e.is("one", Edges.room(Edges.SEVEN).asleep(6), 1);
         e.is("nine", Edges.room(Edges.WAKEFUL).asleep(0), 9);
+        e.is("one, by CALM that he has already", calmEnough().asleep(0), 1);
         for (int left = Late.ONE; left >= 0; left--) {
             e.is("late, " + left, Late.one(left).asleep(Late.LATE_ONE), left);
         }
@@ -110,10 +111,21 @@ final class ForetoldEdges {
         return x;
     }
 
+    /** The song without a hand: CALM stays at 2, and that is what he needs now. */
+    private static AsleepCots calmEnough() {
+        AsleepCots x = Edges.room("k1,1;s3,0,0;");
+        x.hand(0, 1);
+        x.minutes(1);
+        x.hand(0, 0);
+        x.need(0, 2);
+        return x;
+    }
+
     private void allAsleep() {
         e.edge(21, "ALL: behind how many MINUTES (0: now; 60 at most) all who are not OUT SLEEP first; NONE");
         e.is("now", Edges.after(Edges.SEVEN, 1).allAsleep(), 0);
         e.is("one", Edges.room(Edges.SEVEN).allAsleep(), 1);
+        e.is("one, by CALM that he has already", calmEnough().allAsleep(), 1);
         for (int left = Late.ALL; left >= 0; left--) {
             e.is("late, " + left, Late.all(left).allAsleep(), left);
         }
@@ -386,8 +398,12 @@ final class ForetoldEdges {
         // Woken, he cries for the minute and lies; behind the next he sleeps, whatever comes.
         AsleepCots x = Edges.after("k0,1;p1,0,0;", 1);
         fraction(x, 1, 2, 4, 19, 25);
+        fraction(x, 1, 2, 1, 91, 100);
+        fraction(x, 1, 2, 9, 91, 100);
         fraction(x, 1, 3, 10, 0, 1);
         fraction(x, 1, 4, 10, 1, 1);
+        fraction(Edges.after("k0,9;p1,0,0;p3,0,0;", 1), 1, 2, 3, 49, 100);
+        fraction(Edges.after("k0,9;p1,0,0;p4,0,0;", 1), 1, 2, 3, 0, 1);
         x = Edges.after("k0,9;p9,0,0;p9,5,0;", 9);
         fraction(x, 5, 1, 3, 7, 10);
         x.carry(0, 1);

@@ -73,6 +73,7 @@ final class TextEdges {
         e.is("BAD is first, below", x.feed(-1), BAD);
         x.room();
         e.is("read, it has room again", x.feed('k'), 1);
+        e.is("120 figures are read to their end", Due.fed("7".repeat(120)).room(), -1000100);
         e.edge(6, "the first of these that fits");
         e.is("BAD on a tape with room", x.feed(256), BAD);
     }
@@ -88,6 +89,10 @@ final class TextEdges {
         e.is("a fault", x.room(), -1000102);
         e.is("empty behind a fault", x.count(7), 0);
         e.is("nothing of it is read again", Due.feed(x, LAW + CHILD + CHILD).room(), 2);
+        Due.feed(x, "k0000000,1;").room();
+        e.is("nor behind the end of a shorter one", Due.feed(x, "k00").room(), -1000103);
+        Due.feed(x, LAW + CHILD + CHILD + CHILD).room();
+        e.is("nor as a child more", Due.feed(x, LAW + CHILD).room(), 1);
     }
 
     private void manyChildren() {
